@@ -151,8 +151,36 @@ public final class DuskTest {
         y.set(0, 0, 4);
         Check.due("the run broke", y.of(24, 0, 3), 20);
         Check.due("in minute 4", y.of(24, 0, 2), 4);
-        turning(0, 1);
-        turning(1, 0);
+        UpperFloors z = Check.under("weighs 5;holds 0;hits speed;");
+        z.house(0, 0, 0);
+        z.set(0, 0, 3);
+        z.of(2, 0, 0);
+        Check.due("no run comes from another dusk", z.of(3, 0, 3), 3);
+        Check.due("speed is 0 but of hits", speedless("speed*9", "0"), 9);
+        Check.due("speed is 0 but of hits", speedless("5", "speed*9"), 0);
+        for (int one = 0; one < 2; one++) {
+            turning(one, 1 - one);
+            Check.due("a still minute ends a chain's run", broken("told*(not minute=1)", one), 20);
+            Check.due("a minute upwards ends it", broken("told*(not minute=1)+(10-told)*(minute=1)", one), 30);
+            Check.due("unlike by 1, held by 0", broken("told=9", one), 30);
+        }
+    }
+
+    private static int speedless(String weighs, String holds) {
+        UpperFloors x = Check.under("weighs " + weighs + ";holds " + holds + ";hits 1;");
+        x.house(0, 0, 0);
+        return x.of(24, 0, 0);
+    }
+
+    /** Ten times the speed of a floor's hit, of 3 high, in a chain with one of 3. */
+    private static int broken(String weighs, int one) {
+        UpperFloors x = Check.under("weighs " + weighs + ";holds 0;hits speed*10;");
+        x.house(0, one == 0 ? 9 : 1, 0);
+        x.house(0, one == 0 ? 1 : 9, 0);
+        x.set(0, 0, 3);
+        x.set(1, 0, 3);
+        x.chain(0, 1);
+        return x.of(24, one, 3);
     }
 
     /** The one weighs 9 till minute 2, the other one from minute 3 on: both come down once. */

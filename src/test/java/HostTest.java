@@ -149,6 +149,7 @@ public final class HostTest {
         for (int at : new int[] {-1, 10, 12, -3, Integer.MAX_VALUE, Integer.MIN_VALUE}) {
             Check.due("outside", x.housesBy(0, 1, at, 7), -12);
         }
+        Check.due("the last three, of no kind", x.housesBy(0, 1, 9, 1), 0);
         Check.due("a kind that is none, and outside", x.housesBy(0, 1, 4, 3), -12);
         Check.due("one came ahead", x.count(0), 4);
         Check.due("its place", x.told(3, 4), 99);

@@ -166,6 +166,15 @@ public final class LawTest {
         inside("`", 0);
         inside("{", 0);
         inside("1:2", 1);
+        inside("1 <", 3);
+        inside("1 =", 3);
+        inside("1 *", 3);
+        inside("1 +", 3);
+        inside("1 or", 4);
+        inside("1 and", 5);
+        inside("-", 1);
+        fault("weighs tol", 7);
+        fault("weighs told", 11);
         inside("1.2", 1);
     }
 
@@ -262,7 +271,23 @@ public final class LawTest {
             5, 5, 1, 1, 0, 1, 6, 1, 1,
             1, 0, 1, 2, 4};
         for (int i = 0; i < e.length; i++) Check.due(e[i], Check.value(e[i]), v[i]);
+        String[] truths = {"0 or 0", "1 and 0", "0 and 1", "2<1", "1<1", "1=2", "not 1"};
+        for (String none : truths) Check.due("5 and none", Check.value("5+(" + none + ")"), 5);
+        for (String one : new String[] {"3 or 0", "0 or 3", "3 and 4", "1<2", "4=4", "not 0"}) {
+            Check.due("5 and one", Check.value("5+(" + one + ")"), 6);
+        }
         wrapping();
+        anew();
+    }
+
+    /** Nothing of a text at fault is in the one that comes to its number. */
+    private static void anew() {
+        UpperFloors x = new UpperFloors();
+        x.house(0, 50, 0);
+        Check.text(x, "weighs 1+2+3+4+5;holds told*told;hits 7 or 8 or 9;!");
+        Check.due("the next one", Check.text(x, "weighs 2;holds 4;hits 6;"), 1);
+        x.force(1);
+        for (int part = 0; part < 3; part++) Check.due("its words alone", x.asks(part, 0, 0), 2 * part + 2);
     }
 
     private static void wrapping() {
