@@ -22,8 +22,10 @@ public final class ModelTest {
         int restless = 2 + draw.to(4);
         for (int i = 0; i < homes; i++, calls++) one(run, x, m, "set", draw.numbers("set"));
         while (calls < CALLS) {
-            if (draw.oneIn(30)) calls += feed(run, x, m, draw.text());
-            if (draw.oneIn(20)) calls += tell(run, x, m, draw);
+            // What is answered behind the 512th call is free, so no row of calls begins that might pass it.
+            boolean room = calls < CALLS - 50;
+            if (room && draw.oneIn(30)) calls += feed(run, x, m, draw.text());
+            if (room && draw.oneIn(20)) calls += tell(run, x, m, draw);
             String name = draw.pick(Calls.NAMES);
             boolean rare = name.equals("back") || name.equals("dawn") || name.equals("night") || name.equals("feed");
             if (rare && !draw.oneIn(restless)) continue;

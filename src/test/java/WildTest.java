@@ -15,8 +15,11 @@ public final class WildTest {
     }
 
     private static UpperFloors in(int state) {
-        UpperFloors x = new UpperFloors();
-        if (state == 0) return x;
+        return Seen.made(x -> build(x, state));
+    }
+
+    private static void build(UpperFloors x, int state) {
+        if (state == 0) return;
         Draw draw = new Draw(state);
         for (int h = 0; h < (state == 4 ? 7 : 1 + 2 * state); h++) x.house(draw.to(6), draw.to(100), draw.to(10));
         for (int h = 0; h < 7; h++) x.set(h, 1, draw.to(21));
@@ -28,7 +31,6 @@ public final class WildTest {
             Check.text(x, "weighs 9999*9999*9999;holds -high;hits minute*speed;");
             x.force(1);
         }
-        return x;
     }
 
     private static void everyEdge(String name, int size, int state) {
@@ -50,35 +52,23 @@ public final class WildTest {
         }
     }
 
-    /** All that can be asked of the state. */
-    private static String seen(UpperFloors x) {
-        StringBuilder all = new StringBuilder();
-        for (int what = 0; what < 6; what++) all.append(x.count(what)).append(' ');
-        for (int h = 0; h < x.count(0); h++) for (int what = 0; what < 6; what++) all.append(x.told(h, what)).append(' ');
-        for (int s = 0; s < 4; s++) {
-            all.append(x.times(s)).append('/');
-            int size = 0;
-            while (size < 41 && x.copy(s, size, s, size, 1) == 1) size++;
-            all.append(x.copy(s, 0, s, 0, 0)).append('/').append(size).append(' ');
-        }
-        return all.append(x.all(24, 1)).append(' ').append(x.all(5, 2)).toString();
-    }
-
     private static void refusals() {
-        for (int run = 0; run < 150; run++) {
+        for (int run = 0; run < 3000; run++) {
             Draw draw = new Draw(run);
-            UpperFloors x = in(1 + run % 4);
-            for (int call = 0; call < 200; call++) {
-                int which = draw.to(Calls.NAMES.length);
-                String name = Calls.NAMES[which];
-                int[] a = draw.numbers(name);
-                String before = seen(x);
-                long answer = Calls.call(x, name, a);
-                boolean changes = CHANGING.contains(" " + name + " ");
-                boolean told = name.equals("text") && answer <= -100 || name.equals("housesBy") && answer == -12
-                    || name.equals("chain") && answer == -1;
-                if (!changes || answer < 0 && !told) Check.holds(name + Arrays.toString(a) + " changed what is there", before.equals(seen(x)));
-            }
+            int state = run % 5;
+            String name = draw.pick(Calls.NAMES);
+            int[] a = draw.numbers(name);
+            long answer = Calls.call(in(state), name, a);
+            boolean changes = CHANGING.contains(" " + name + " ");
+            boolean told = name.equals("text") && answer <= -100 || name.equals("housesBy") && answer == -12
+                || name.equals("chain") && answer == -1;
+            if (changes && (answer >= 0 || told)) continue;
+            String before = Seen.of(x -> build(x, state));
+            String behind = Seen.of(x -> {
+                build(x, state);
+                Calls.call(x, name, a);
+            });
+            Check.holds(name + Arrays.toString(a) + " changed what is there", before.equals(behind));
         }
     }
 
