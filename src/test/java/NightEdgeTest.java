@@ -7,6 +7,7 @@ public final class NightEdgeTest {
         times();
         laws();
         thief();
+        sizes();
         film();
         drawn();
         odds();
@@ -167,6 +168,29 @@ public final class NightEdgeTest {
         Check.sheet(y, 0, 0, 9, 8);
         Check.due("nobody more", y.thief(0, 1, 0), 1);
         Check.due("as many as may be, it falls anyway", y.thief(0, 1, 1), (1 << 21) - 1);
+    }
+
+    /** "BAD: its size isn't how many HOUSES there are": 0, 1 less, 1 more, 40; of none 1, 40; ahead of what is behind it. */
+    private static void sizes() {
+        for (int there = 0; there <= 7; there++) {
+            UpperFloors x = new UpperFloors();
+            for (int h = 0; h < there; h++) x.house(0, 0, 0);
+            for (int size : new int[] {0, there - 1, there, there + 1, 40}) {
+                if (size < 0) continue;
+                x.sheet(1, size % 3, size);
+                for (int i = 0; i < size; i++) x.cell(1, i, 9);
+                boolean like = size == there;
+                String what = size + " numbers of " + there;
+                Check.due("judge, " + what, x.judge(1, 24), like ? -1 : -2);
+                Check.due("judge, n wrong, " + what, x.judge(1, 25), like ? -7 : -2);
+                Check.due("times, " + what, x.times(1), like ? (1 << 25) - 1 : -2);
+                Check.due("laws, " + what, x.laws(1, 24), like ? 1 : -2);
+                Check.due("laws, n wrong, " + what, x.laws(1, -1), like ? -7 : -2);
+                Check.due("thief, " + what, x.thief(1, 0, 0), !like ? -2 : there == 0 ? -5 : (1 << 21) - 1);
+                Check.due("thief, no such house, " + what, x.thief(1, 25, there), like ? -5 : -2);
+                Check.due("thief, n wrong, " + what, x.thief(1, 25, 0), !like ? -2 : there == 0 ? -5 : -7);
+            }
+        }
     }
 
     /** Promise 27: "A SHEET truly becomes that (ints)": a missing one, one of another sort and size; of none, of seven. */

@@ -24,6 +24,7 @@ public final class RefusalTest {
         noHouses();
         full();
         noImage();
+        answersOfMinusOne();
         toldChanges();
         asked();
         Check.end();
@@ -302,6 +303,39 @@ public final class RefusalTest {
         UpperFloors x = new UpperFloors();
         Check.due("an image of no houses", x.image(), 0);
         Check.due("it is one", x.back(), 0);
+    }
+
+    /** "(a -1 that is an answer comes behind the refusal of a number)": where each answer is -1, wrong numbers are told. */
+    private static void answersOfMinusOne() {
+        Seen.Way held = x -> {
+            x.house(0, 0, 0);
+            x.house(0, 0, 0);
+            x.sheet(0, 0, 2);
+            x.cell(0, 0, 9);
+            x.cell(0, 1, 9);
+        };
+        String[] calls = {"first 0", "weight 0 0 0", "over 0 0", "link 0 0", "bring 0 0", "frees 0 0 0", "hang 0 1 0", "hang 0 1 1",
+            "when 0", "of 0 0 2", "told 0 2", "judge 0 0"};
+        String[] wrong = {"first 2", "weight 21 0 0", "weight 0 25 0", "weight 0 0 2", "over 25 0", "over 0 2", "link 25 0",
+            "link 0 -1", "bring 0 25", "bring 2 0", "frees 0 25 0", "frees 0 0 2", "frees 2 0 0", "hang 0 1 2", "hang 0 2 0",
+            "when 2", "of 25 0 2", "of 0 2 2", "told 2 2", "judge 0 25", "judge 4 0"};
+        int[] due = {-2, -2, -2, -2, -2, -2, -2, -2, -7, -5, -7, -7, -5, -7, -5, -5, -5, -5, -5, -7, -2};
+        for (String call : calls) {
+            // weight() answers -1 where there are no HOUSES alone.
+            Seen.Way way = call.startsWith("weight") ? Seen.NOTHING : held;
+            Check.due(call, called(way, call), -1);
+        }
+        for (int i = 0; i < wrong.length; i++) {
+            Seen.Way way = wrong[i].startsWith("weight") ? Seen.NOTHING : held;
+            Check.due(wrong[i], called(way, wrong[i]), due[i]);
+        }
+    }
+
+    private static long called(Seen.Way way, String call) {
+        String[] p = call.split(" ");
+        int[] a = new int[p.length - 1];
+        for (int i = 0; i < a.length; i++) a[i] = Integer.parseInt(p[i + 1]);
+        return Calls.call(Seen.made(way), p[0], a);
     }
 
     // ---- refused, and changed as told
