@@ -1,3 +1,5 @@
+import java.math.BigInteger;
+
 /** Sections 1 (HOUSES, KINDS) and 2 (A DUSK, DRAWN) of the Terms: each sentence that names an edge. */
 public final class DuskEdgeTest {
     /** The first lots of SEED 0, as they stand in tables of this row of numbers. */
@@ -25,6 +27,7 @@ public final class DuskEdgeTest {
         hits();
         lots();
         lotsByChains();
+        everyLot();
         notDrawn();
         Check.end();
     }
@@ -472,6 +475,36 @@ public final class DuskEdgeTest {
         x.set(1, 0, 1);
         x.chain(0, 1);
         return x.drawn(0, n, 0);
+    }
+
+    /** "each further one the last times 48271 modulo 2147483647": each lot of all 24 MINUTES, of one, two, three CHAINS. */
+    private static void everyLot() {
+        BigInteger modulo = BigInteger.valueOf(2147483647);
+        for (int chains = 1; chains <= 3; chains++) {
+            for (int seed : new int[] {0, 7, 44488, 99999}) {
+                for (int lot = 0; lot < 24 * chains; lot++) {
+                    BigInteger value = BigInteger.valueOf(48271).modPow(BigInteger.valueOf(lot + 1), modulo)
+                        .multiply(BigInteger.valueOf(seed + 1)).mod(modulo);
+                    int rest = value.mod(BigInteger.valueOf(100)).intValue();
+                    int minute = lot / chains;
+                    UpperFloors x = inOneMinute(chains, lot % chains, minute);
+                    String what = "lot " + lot + " of " + chains + " chains, seed " + seed;
+                    Check.due(what + ", not below " + rest, x.drawn(seed, minute + 1, rest), 1);
+                    Check.due(what + ", below 1 more", x.drawn(seed, minute + 1, rest + 1), 0);
+                    Check.due(what + ", not yet", x.drawn(seed, minute, rest), 0);
+                    Check.due(what + ", behind all 24", x.drawn(seed, 24, rest), 1);
+                }
+            }
+        }
+    }
+
+    /** Chains 0-6, 1-5, 2-4, as many as told, that can move in one minute alone; by that which comes down to 0. */
+    private static UpperFloors inOneMinute(int chains, int which, int minute) {
+        UpperFloors x = Check.under(law("told*(minute=" + minute + ")", "0", "0"));
+        for (int h = 0; h < 7; h++) x.house(0, h < 3 ? 9 : 1, h);
+        for (int h = 0; h < 7; h++) x.set(h, 0, h == which ? 1 : 5);
+        for (int c = 0; c < chains; c++) x.chain(6 - c, c);
+        return x;
     }
 
     /** "(Where it is not DRAWN no CHAIN CATCHES.)" */

@@ -1,8 +1,8 @@
+import java.io.IOException;
 import java.lang.reflect.Constructor;
 import java.lang.reflect.Field;
 import java.lang.reflect.Method;
 import java.lang.reflect.Modifier;
-import java.io.IOException;
 import java.nio.file.Files;
 import java.nio.file.Path;
 import java.util.ArrayList;
@@ -12,16 +12,16 @@ import java.util.TreeSet;
 import java.util.regex.Matcher;
 import java.util.regex.Pattern;
 
-/** The public face, member by member, and what LANGUAGE.md rules out, as far as it shows. */
+/** The public face, member by member, as it is compiled and as it stands in the document and in the source. */
 public final class FaceTest {
     private static final Path SOURCE = Path.of("src/main/java/UpperFloors.java");
+    private static final Path DOCUMENT = Path.of("../shared/DOC.md");
 
     public static void main(String[] args) throws IOException {
         face();
         constants();
-        inner();
-        words();
-        shapes();
+        asTheDocument();
+        heads();
         Check.end();
     }
 
@@ -32,18 +32,13 @@ public final class FaceTest {
             due.add(type + " " + Calls.NAMES[i] + "(" + Calls.SIZES[i] + ")");
         }
         TreeSet<String> got = new TreeSet<>();
-        TreeSet<String> publicNames = new TreeSet<>();
         for (Method m : UpperFloors.class.getDeclaredMethods()) {
             if (Modifier.isPrivate(m.getModifiers())) continue;
             got.add(m.getReturnType() + " " + m.getName() + "(" + m.getParameterCount() + ")");
-            publicNames.add(m.getName());
             Check.holds(m + " is public", Modifier.isPublic(m.getModifiers()) && !Modifier.isStatic(m.getModifiers()));
             for (Class<?> type : m.getParameterTypes()) Check.holds(m + " takes ints", type == int.class);
         }
         Check.holds("methods " + got, got.equals(due));
-        for (Method m : UpperFloors.class.getDeclaredMethods()) {
-            if (Modifier.isPrivate(m.getModifiers())) Check.holds(m + " bears a public name", !publicNames.contains(m.getName()));
-        }
         Constructor<?>[] made = UpperFloors.class.getDeclaredConstructors();
         Check.holds("one public constructor", made.length == 1 && made[0].getParameterCount() == 0
             && Modifier.isPublic(made[0].getModifiers()));
@@ -60,56 +55,44 @@ public final class FaceTest {
         List<String> names = new ArrayList<>();
         for (Field f : UpperFloors.class.getDeclaredFields()) {
             if (!Modifier.isPrivate(f.getModifiers())) names.add(f.getName() + " " + f.getType());
-            boolean both = Modifier.isStatic(f.getModifiers()) && !Modifier.isFinal(f.getModifiers());
-            Check.holds(f + " is no static state", !both);
         }
         Check.holds("constants " + names, new TreeSet<>(names).equals(
             new TreeSet<>(List.of("NONE int", "BAD int", "STATE int", "FULL int", "NO long"))));
     }
 
-    private static void inner() {
-        Class<?>[] all = UpperFloors.class.getDeclaredClasses();
-        Check.holds("some twelve classes", all.length < 15);
-        for (Class<?> c : all) {
-            int m = c.getModifiers();
-            Check.holds(c + " is static, and not public", Modifier.isStatic(m) && !Modifier.isPublic(m) && !Modifier.isProtected(m));
-            long fields = Arrays.stream(c.getDeclaredFields()).filter(f -> !Modifier.isStatic(f.getModifiers())).count();
-            Check.holds(c + " has few fields", fields <= 20);
-            for (Method method : c.getDeclaredMethods()) {
-                Check.holds(method + " takes at most seven", method.getParameterCount() <= 7);
-            }
+    /** "just as they stand there": each line of the document's face, with its numbers' names, in its order, and no other. */
+    private static void asTheDocument() throws IOException {
+        Matcher block = Pattern.compile("(?s)```java\n(.*?)```").matcher(Files.readString(DOCUMENT));
+        Check.holds("the document has a face", block.find());
+        List<String> due = new ArrayList<>();
+        for (String line : block.group(1).split("\n")) if (line.contains("public")) due.add(plain(line));
+        List<String> got = new ArrayList<>();
+        for (String line : Files.readAllLines(SOURCE)) if (line.strip().startsWith("public")) got.add(plain(line));
+        Check.due("lines of the face", got.size(), due.size());
+        for (int i = 0; i < due.size() && i < got.size(); i++) {
+            Check.holds("'" + got.get(i) + "' stands there as '" + due.get(i) + "'", got.get(i).equals(due.get(i)));
         }
+        // Calls.NAMES stand in the document's order, too, so that no test leaves one out.
+        List<String> calls = new ArrayList<>();
+        for (String line : due) if (line.matches("public (int|long) .*")) calls.add(line.replaceAll("public \\w+ (\\w+).*", "$1"));
+        Check.holds("calls " + calls, calls.equals(Arrays.asList(Calls.NAMES)));
     }
 
-    private static void words() throws IOException {
-        String code = code();
-        String[] out = {"throw", "try", "catch", "synchronized", "assert", "package", "protected", "volatile", "native", "Object",
-            "hashCode", "System\\.(?!arraycopy)\\w+", "\\w+Exact", "Math\\.random", "Arrays\\.(?!copyOf|copyOfRange|fill)\\w+",
-            "import\\s+(?!java\\.util\\.(ArrayList|List|Arrays|Iterator);)", "::"};
-        for (String word : out) {
-            Matcher m = Pattern.compile(word.matches("\\w+") ? "\\b" + word + "\\b" : word).matcher(code);
-            Check.holds("no " + word, !m.find());
-        }
-        // An arrow stands in a switch alone, never in a lambda.
-        Check.holds("no lambda", !code.replaceAll("(case [^;{}]*?|default *)->", "").contains("->"));
-        for (char c : Files.readString(SOURCE).toCharArray()) if (c > 126) Check.holds("plain signs alone", false);
+    private static String plain(String line) {
+        return line.replaceAll("[;{]\\s*$", "").strip();
     }
 
-    /** The source without comments and texts. */
-    private static String code() throws IOException {
-        return Files.readString(SOURCE).replaceAll("(?s)/\\*.*?\\*/", "").replaceAll("//[^\n]*", "").replaceAll("\"[^\"]*\"", "\"\"");
-    }
-
-    private static void shapes() throws IOException {
-        int start = -1;
-        int number = 0;
-        for (String line : Files.readAllLines(SOURCE)) {
-            number++;
-            if (line.matches("    (    )?(public|private|static|int|boolean|void|long|[A-Z]\\w*)\\b.*\\) \\{")) start = number;
-            if (start > 0 && line.matches("    (    )?\\}")) {
-                Check.holds("the method of line " + start + " is short", number - start <= 65);
-                start = -1;
-            }
+    /** "Ahead of the calls .. the interface says: ---- ..": these heads, ahead of these calls. */
+    private static void heads() throws IOException {
+        String source = Files.readString(SOURCE);
+        Matcher told = Pattern.compile("Ahead of the calls `(\\w+)`.*? says: (---- .*?)\\.\n").matcher(Files.readString(DOCUMENT));
+        int many = 0;
+        while (told.find()) {
+            many++;
+            String due = "// " + told.group(2) + "\n\n    public ";
+            Matcher head = Pattern.compile(Pattern.quote(due) + "\\w+ " + told.group(1) + "\\(").matcher(source);
+            Check.holds(told.group(2) + " stands ahead of " + told.group(1), head.find());
         }
+        Check.due("heads", many, 8);
     }
 }

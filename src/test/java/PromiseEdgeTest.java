@@ -3,6 +3,7 @@ public final class PromiseEdgeTest {
     public static void main(String[] args) {
         theLastCall();
         newObject();
+        objectsApart();
         count();
         feed();
         text();
@@ -70,6 +71,27 @@ public final class PromiseEdgeTest {
         for (int s = 0; s < 4; s++) Check.due("sheets are missing", x.cell(s, 0, 0), -11);
         Check.due("back", x.back(), -3);
         Check.due("image", x.image(), 0);
+    }
+
+    /** "A new object": what was done to others shows in none, neither in a new one nor in one that was there. */
+    private static void objectsApart() {
+        UpperFloors there = Seen.made(Seen.SOME);
+        String none = Seen.of(Seen.NOTHING);
+        UpperFloors full = Seen.made(Seen.ALL);
+        full.night(24);
+        full.back();
+        Check.holds("a new one is as each new one", Seen.of(Seen.NOTHING).equals(none));
+        Check.due("no houses", new UpperFloors().count(0), 0);
+        Check.due("no image", new UpperFloors().back(), -3);
+        UpperFloors again = Seen.made(Seen.SOME);
+        for (int what = 0; what < 6; what++) Check.due("one that was there", there.count(what), again.count(what));
+        for (int h = 0; h < 3; h++) {
+            for (int what = 0; what < 6; what++) Check.due("its houses", there.told(h, what), again.told(h, what));
+        }
+        Check.due("its dusk", there.all(9, 0), again.all(9, 0));
+        Check.due("its lots", there.drawn(9, 9, 50), again.drawn(9, 9, 50));
+        Check.due("its tape", there.text(), again.text());
+        Check.due("its image", there.back(), again.back());
     }
 
     // ---- the law
