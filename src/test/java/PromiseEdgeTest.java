@@ -569,6 +569,13 @@ public final class PromiseEdgeTest {
         z.set(0, 0, 9);
         Check.due("from the ground alone", z.hang(0, 1, 0), 0);
         Check.due("later", z.hang(0, 1, 1), 14);
+        // Both weigh alike at each height there is: none below 0 and none above 9 is tried.
+        UpperFloors w = Check.under("weighs 9-9*(high<0)-9*(9<high);holds 0;hits 0;");
+        w.house(0, 0, 0);
+        w.house(0, 0, 0);
+        w.chain(0, 1);
+        w.set(0, 0, 1);
+        for (int what = 0; what < 2; what++) Check.due("by no height", w.hang(0, 1, what), -1);
         UpperFloors y = of(9, 9, 9, 9, 9, 9, 0);
         y.chain(0, 6);
         Check.due("the last one, at 0", y.hang(0, 6, 0), 0);

@@ -19,6 +19,7 @@ public final class TextEdgeTest {
         openTillItEnds();
         sixTexts();
         afterFaults();
+        afterEachFault();
         firstLaw();
         bounds();
         names();
@@ -147,6 +148,13 @@ public final class TextEdgeTest {
         fault("weighs 1;holds 1;hits 1;hits 1;", 24);
         fault("weighs 1;holds 1;hits 1;;", 24);
         fault("weighs 1;holds 1;hits 1;0", 24);
+        // No TOKEN can stand behind the last ; , of whatever sort it is, nor what is none.
+        String[] behind = {"1", "9999", "12345", "told", "tolds", "weighs", "holds", "hits", "or", "and", "not", "(", ")", ";", "+", "-",
+            "*", "<", "=", "!"};
+        for (String token : behind) {
+            fault("weighs 1;holds 1;hits 1;" + token, 24);
+            fault("weighs 1;holds 1;hits 1; " + token + " ", 25);
+        }
         fault("weighs 1;;holds 1;hits 1;", 9);
         fault("weighs 1 holds 1;hits 1;", 9);
         fault("weighs;holds 1;hits 1;", 6);
@@ -391,6 +399,24 @@ public final class TextEdgeTest {
             Check.due("weighs", x.asks(0, 0, 0), 60);
             Check.due("holds", x.asks(1, 0, 0), t);
             Check.due("hits", x.asks(2, 0, 0), 10 + t);
+        }
+    }
+
+    /** Whatever steps a fault had, of signs and of numbers, none of them is in the text that is read next. */
+    private static void afterEachFault() {
+        String[] faults = {"weighs 1+2*3;!", "weighs 1*2+3;!", "weighs -1*-2;!", "weighs not 1 and not 2;!", "weighs 1+(2+(3+4));!",
+            "weighs told;holds more*2+high;hits 1 or 0 or 1", "weighs 1<2 and 3=4;holds - - 1", "weighs 9;holds 9;hits 9*9-9+9;;"};
+        for (String fault : faults) {
+            for (String weighs : new String[] {"2", "1+1", "- - 2", "told-48", "not 0+(1=1)+1"}) {
+                UpperFloors x = new UpperFloors();
+                x.house(0, 50, 0);
+                Check.holds("a fault", Check.text(x, fault) <= -100);
+                Check.due("a text", Check.text(x, "weighs " + weighs + ";holds 4;hits 6;"), 1);
+                x.force(1);
+                Check.due("weighs", x.asks(0, 0, 0), weighs.startsWith("not") ? 0 : 2);
+                Check.due("holds", x.asks(1, 0, 0), 4);
+                Check.due("hits", x.asks(2, 0, 0), 6);
+            }
         }
     }
 
